@@ -19,12 +19,15 @@ public final class FloorQueue {
 
     private final int[] keys;
     private final int[] buckets;
+    /** How many items each bucket has. */
     private final int[] members;
     private int floorKey;
     private int present;
     private int placings;
+    /** Calls that gave an item its first key or a lesser one, whether or not its bucket changed. */
     private int keyings;
 
+    /** For each item the arc that came last of those that begin there, or null. */
     private final Arc[] latestArcs;
     private int arcs;
 
@@ -220,8 +223,9 @@ public final class FloorQueue {
     }
 
     private void leaveBucket(int item) {
-        if (isThere(item)) {
-            members[buckets[item]]--;
+        int bucket = buckets[item];
+        if (bucket != AWAY) {
+            members[bucket]--;
             buckets[item] = AWAY;
         }
     }

@@ -216,6 +216,13 @@ public final class NetTest {
         x.arc(1, 2, TOP);
         Check.due("12: the item waits already", x.run(0), 0);
         Check.due("13: the same", x.distance(2), 18);
+        FloorQueue y = new FloorQueue(3, 9, TOP);
+        y.arc(0, 1, 1);
+        y.arc(0, 2, 5);
+        y.arc(1, 2, TOP);
+        Check.due("12: left out while the item waits", y.run(0), 0);
+        Check.due("13: as it was", y.distance(2), 5);
+        Check.due("14: as it was", y.before(2), 0);
     }
 
     private static void tooLongBehindTooLong() {
