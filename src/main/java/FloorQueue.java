@@ -9,6 +9,8 @@ public final class FloorQueue {
 
     private static final int MOST_ITEMS = 40;
     private static final int MOST_ARCS = 300;
+    private static final int GREATEST_KEY = 0x7fffffff;
+    private static final int BITS = 32;
     private static final int BUCKETS = 32;
     /** What stands in place of a bucket for an item that is not in the queue. */
     private static final int AWAY = -1;
@@ -211,7 +213,7 @@ public final class FloorQueue {
 
     /** Neither a key nor the floor is ever negative, so bit 32 is always alike. */
     private int bucketFor(int key) {
-        return Integer.SIZE - Integer.numberOfLeadingZeros(key ^ floorKey);
+        return BITS - Integer.numberOfLeadingZeros(key ^ floorKey);
     }
 
     private void putIntoBucket(int item) {
@@ -290,7 +292,7 @@ public final class FloorQueue {
     private void tryWay(int taken, Arc arc) {
         int end = arc.end;
         long sum = (long) distances[taken] + arc.length;
-        if (distances[end] != BAD || sum > Integer.MAX_VALUE) {
+        if (distances[end] != BAD || sum > GREATEST_KEY) {
             return;
         }
         if (!isThere(end)) {
